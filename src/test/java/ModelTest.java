@@ -36,7 +36,9 @@ public final class ModelTest {
         int few = 1 + random.nextInt(9);
         int wait = 1 + random.nextInt(random.nextBoolean() ? 3 : 32);
         String name = "run " + run;
-        CHECK.due(name + " rules", x.rules(few, low, high, wait), m.rules(few, low, high, wait));
+        if (random.nextInt(5) > 0) {
+            CHECK.due(name + " rules", x.rules(few, low, high, wait), m.rules(few, low, high, wait));
+        }
         int seed = random.nextInt();
         x.seed(seed);
         m.seed(seed);

@@ -7,11 +7,13 @@ public final class TickTest {
         ticksUpToTheLast();
         tellsAtItsTick();
         fewAreEnough();
+        fewAtFirst();
         likeTellsAreCounted();
         sendersHearNothing();
         twoLettersSpoil();
         lettersAreLostByOdds();
         lesserTellAsksForData();
+        waitAtFirst();
         tellOfLesserRankAsksForData();
         greaterTellAsksForNothing();
         dataAtStaysOnceSet();
@@ -85,6 +87,35 @@ public final class TickTest {
         }
     }
 
+    private static void fewAtFirst() {
+        int seen = 0;
+        for (int s = 0; s < 300; s++) {
+            for (int heard = 1; heard <= 2; heard++) {
+                MeshField x = new MeshField();
+                x.seed(s * 7919);
+                for (int i = 0; i < 3; i++) {
+                    x.machine();
+                }
+                x.ticks(4);
+                int first = x.machineOf(0, Ask.TELLS_AT);
+                int second = x.machineOf(1, Ask.TELLS_AT);
+                int last = x.machineOf(2, Ask.TELLS_AT);
+                if (first >= second || second >= last) {
+                    continue;
+                }
+                for (int i = 0; i < heard; i++) {
+                    x.hears(2, i, 0);
+                }
+                x.ticks(last - 4);
+                CHECK.due("FEW at first: HEARD", x.machineOf(2, Ask.HEARD), heard);
+                x.ticks(1);
+                CHECK.due("FEW at first, HEARD " + heard + ": TELLS", x.machineOf(2, Ask.TELLS), 3 - heard);
+                seen++;
+            }
+        }
+        CHECK.due("FEW at first was seen", seen > 0, true);
+    }
+
     private static void likeTellsAreCounted() {
         MeshField x = Pair.steady();
         x.hears(1, 0, 0);
@@ -129,11 +160,17 @@ public final class TickTest {
         x.ticks(1);
         x.machine();
         x.machine();
+        x.machine();
         for (int i = 0; i < 3; i++) {
             x.hears(3, i, 0);
         }
         x.hears(4, 1, 0);
+        x.hears(5, 0, 100);
+        x.hears(5, 2, 0);
         x.ticks(1);
+        CHECK.due("two at once: SPOILT", x.machineOf(5, Ask.SPOILT), 1);
+        CHECK.due("two at once: HEARD", x.machineOf(5, Ask.HEARD), 0);
+        CHECK.due("two at once: lost", x.machineOf(5, Ask.LOST), 0);
         CHECK.due("three at once: one SPOILT more", x.machineOf(3, Ask.SPOILT), 1);
         CHECK.due("three at once: HEARD", x.machineOf(3, Ask.HEARD), 0);
         CHECK.due("three at once: lost", x.machineOf(3, Ask.LOST), 0);
@@ -172,6 +209,31 @@ public final class TickTest {
             CHECK.due("not HEARD, seed " + s, x.machineOf(0, Ask.HEARD), 0);
             CHECK.due("the teller has no DATA-AT", x.machineOf(1, Ask.DATA_AT), -1);
         }
+    }
+
+    private static void waitAtFirst() {
+        int seen = 0;
+        for (int s = 0; s < 100; s++) {
+            MeshField x = new MeshField();
+            x.seed(s);
+            x.machine();
+            x.machine();
+            Ask.pieces(x, 5);
+            x.load(0, 3);
+            x.hears(0, 1, 0);
+            int at = x.machineOf(1, Ask.TELLS_AT);
+            if (x.machineOf(0, Ask.TELLS_AT) == at) {
+                continue;
+            }
+            x.ticks(at);
+            x.seed(s + 50);
+            Dice dice = new Dice(s + 50);
+            dice.below(100);
+            x.ticks(1);
+            CHECK.due("WAIT at first: DATA-AT", x.machineOf(0, Ask.DATA_AT), at + 1 + dice.below(6));
+            seen++;
+        }
+        CHECK.due("WAIT at first was seen", seen > 0, true);
     }
 
     private static void tellOfLesserRankAsksForData() {
