@@ -1,6 +1,9 @@
 import java.util.Random;
 
-/** Long runs of mixed calls, laid beside the plain second telling of the document. */
+/**
+ * Long runs of mixed calls, laid beside the plain second telling of the document. All is asked after each call,
+ * which is more than the 512 calls that are promised; the class counts no calls, so the answers stay the document's.
+ */
 public final class ModelTest {
     private static final Check CHECK = new Check();
     private static final int RUNS = 1200;
