@@ -104,11 +104,11 @@ public final class DrawTest {
             x.hears(i, 2, 50);
         }
         x.ticks(33);
-        x.seed(Dice.seedOf(100, 49, 100, 50, 100, 48));
+        x.seed(Dice.seedOf(100, 49, 100, 48, 100, 50));
         x.ticks(1);
         CHECK.due("machine 0 lost", x.machineOf(0, Ask.LOST), 1);
-        CHECK.due("machine 1 lost", x.machineOf(1, Ask.LOST), 0);
-        CHECK.due("machine 3 lost", x.machineOf(3, Ask.LOST), 1);
+        CHECK.due("machine 1 lost", x.machineOf(1, Ask.LOST), 1);
+        CHECK.due("machine 3 lost", x.machineOf(3, Ask.LOST), 0);
     }
 
     private static void lossesAreDrawnAheadOfWhatWorks() {
